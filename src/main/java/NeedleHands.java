@@ -50,11 +50,7 @@ public final class NeedleHands {
         if (c < 0 || c > 255) {
             return BAD;
         }
-        if (text.length >= MOST_BYTES) {
-            return FULL;
-        }
-        text.add(c);
-        return text.length;
+        return text.add(c) ? text.length : FULL;
     }
 
     public int clear() {
@@ -158,11 +154,7 @@ public final class NeedleHands {
     }
 
     public int undo() {
-        if (past.known == 0) {
-            return STATE;
-        }
-        past.restore();
-        return past.known;
+        return past.restore() ? past.known : STATE;
     }
 
     public int now(int what) {
@@ -436,10 +428,9 @@ public final class NeedleHands {
     private void findLeastOrder() {
         for (int i = 0; i < plan.steps; i++) {
             order[i] = i;
-            leastOrder[i] = i;
         }
         long least = ABOVE_ANY_COST;
-        // The orders come by numbers, so that the first of the least ones stays.
+        // By numbers every ahead is so, and the orders come by numbers: the first of the least ones stays.
         for (int turn = 0; turn < ORDERS; turn++) {
             if (plan.allows(order)) {
                 flow.through(plan, past.present, order, past.present.looked);
@@ -561,11 +552,14 @@ public final class NeedleHands {
         private int worth;
         private boolean priced;
 
-        void add(int c) {
-            if (length < MOST_BYTES) {
-                bytes[length] = c;
-                length++;
+        /** False if it is full. */
+        boolean add(int c) {
+            if (length >= MOST_BYTES) {
+                return false;
             }
+            bytes[length] = c;
+            length++;
+            return true;
         }
 
         /** How many items were read; below 0 if there is a fault. */
@@ -783,12 +777,15 @@ public final class NeedleHands {
             known = Math.min(known + 1, MOST_UNDONE);
         }
 
-        void restore() {
-            if (known > 0) {
-                next = (next + MOST_UNDONE - 1) % MOST_UNDONE;
-                present.become(earlier[next]);
-                known--;
+        /** False if nothing may come back. */
+        boolean restore() {
+            if (known == 0) {
+                return false;
             }
+            next = (next + MOST_UNDONE - 1) % MOST_UNDONE;
+            present.become(earlier[next]);
+            known--;
+            return true;
         }
 
         void become(Past other) {

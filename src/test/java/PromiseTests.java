@@ -172,8 +172,16 @@ public final class PromiseTests {
         is("4 ahead of none", x.step(0, 7), 0);
         is("4 the trace stays", x.trace(), 11);
         x.moves(1);
+        x.looks(0, 1);
+        x.makes(0);
         Check.shop(x, TWO);
         is("4 the line by numbers", x.line(0), 0);
+        is("4 nothing thrown", x.step(0, 5), 0);
+        Check.shop(x, TWO + "h0 1;p7;");
+        Check.shop(x, TWO + "h0 1;p8;");
+        Check.shop(x, TWO);
+        is("4 price as of a new object", x.count(1), 50);
+        is("4 no ahead of older texts", x.step(0, 7), 0);
     }
 
     private static void fault(String text, int place) {
@@ -213,6 +221,12 @@ public final class PromiseTests {
     private static void promise4FaultsOfTokens() {
         fault("ss1 0 1 0;", 0);
         fault("x1;", 0);
+        fault("sa1 0 1 0;", 0);
+        fault("sz1 0 1 0;", 0);
+        fault("p1`", 2);
+        fault("p1{", 2);
+        fault("p1/", 2);
+        fault("p1:", 2);
         fault("ps1;", 0);
         fault("S1 0 1 0;", 0);
         fault("s1 0 1 0;hp0 1;", 9);
@@ -561,6 +575,20 @@ public final class PromiseTests {
         y.looks(0, 1);
         is("17 0 must be ahead", y.bestOrder(0), 0);
         is("17 0 must be ahead", y.bestOrder(1), 1);
+        NeedleHands v = Check.told("s1 9 1 0;s1 5 1 0;s9 0 1 0;s9 0 1 0;h0 3;h2 3;");
+        v.looks(1, 1);
+        v.looks(3, 1);
+        int[] last = {0, 1, 2, 3};
+        for (int i = 0; i < 4; i++) {
+            is("17 faults ahead of looks " + i, v.bestOrder(i), last[i]);
+        }
+        NeedleHands u = Check.told("s90 0 1 0;s70 0 1 0;s50 2 1 0;s30 5 1 0;s1 9 1 0;");
+        for (int s = 0; s < 5; s++) {
+            u.looks(s, 1);
+        }
+        for (int i = 0; i < 5; i++) {
+            is("17 the last order of all but for what is the same " + i, u.bestOrder(i), new int[] {4, 3, 2, 0, 1}[i]);
+        }
         NeedleHands w = Check.told("s9 0 1 0;s9 0 1 0;s9 0 1 0;s9 0 1 0;s1 5 1 0;h1 4;");
         w.looks(4, 1);
         int[] due = {1, 4, 0, 2, 3};
@@ -592,6 +620,10 @@ public final class PromiseTests {
         is("18 it can't be", y.few(27), NONE);
         y.looks(0, 1);
         is("18 whatever is looked behind now", y.few(84), 1);
+        NeedleHands w = Check.told("s1 5 1 5;s1 0 1 5;s1 0 1 5;s1 0 1 5;s1 0 1 5;");
+        is("18 a seventeenth", w.few(15), 15);
+        is("18 a thirty-third, by all", w.few(8), 31);
+        is("18 not by all", w.few(7), NONE);
     }
 
     private static void promise19Blame() {
@@ -749,6 +781,20 @@ public final class PromiseTests {
         NeedleHands y = new NeedleHands();
         is("25 of a new object", y.keep(1), 0);
         is("25 and back", y.back(1), 0);
+        NeedleHands w = Check.told(TWO);
+        w.skill(0, 1);
+        w.skill(0, 2);
+        w.keep(0);
+        for (int f = 3; f <= 9; f++) {
+            w.skill(0, f);
+            w.skill(1, f);
+        }
+        w.back(0);
+        w.undo();
+        is("25 the past is kept whole", w.step(0, 1), 1);
+        w.undo();
+        is("25 the past is kept whole", w.step(0, 1), 5);
+        is("25 and that of the other step", w.step(1, 1), 5);
     }
 
     private static void promise26Back() {
@@ -787,8 +833,13 @@ public final class PromiseTests {
         x.skill(0, 8);
         is("26 back again", x.back(0), 1);
         is("26 undone again", x.count(3), 3);
-        x.undo();
-        x.undo();
+        is("26 the image's own past", x.undo(), 2);
+        is("26 line of that", x.line(0), 0);
+        is("26 fault of that", x.step(0, 1), 5);
+        is("26 made of that", x.now(0), 1);
+        is("26 the image's own past", x.undo(), 1);
+        is("26 not made", x.now(0), 0);
+        is("26 looked", x.now(5), 1);
         is("26 the image's own past", x.undo(), 0);
         is("26 not looked", x.now(5), 0);
     }
