@@ -572,20 +572,18 @@ public final class NeedleHands {
                 if (token == END) {
                     return items;
                 }
-                if (token != LETTERS || !readItem(plan) || !readEnd()) {
+                boolean stands = false;
+                switch (token == LETTERS ? worth : 0) {
+                    case 's': stands = plan.steps < MOST_STEPS && readStep(plan); break;
+                    case 'h': stands = readAhead(plan); break;
+                    case 'p': stands = !priced && readPrice(plan); break;
+                    default: break;
+                }
+                if (!stands || !readEnd()) {
                     return BAD;
                 }
             }
             return BAD;
-        }
-
-        private boolean readItem(Plan plan) {
-            switch (worth) {
-                case 's': return plan.steps < MOST_STEPS && readStep(plan);
-                case 'h': return readAhead(plan);
-                case 'p': return !priced && readPrice(plan);
-                default: return false;
-            }
         }
 
         private boolean readStep(Plan plan) {

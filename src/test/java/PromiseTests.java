@@ -251,6 +251,14 @@ public final class PromiseTests {
         fault("s1 0 1 0", 8);
         fault("s1 0 1 0;h", 10);
         fault("s1 0 1 0;h0", 11);
+        fault("s".repeat(150), 0);
+        fault("p1;" + " ".repeat(146) + "s", 150);
+        NeedleHands x = new NeedleHands();
+        Check.type(x, "ps 11;");
+        is("4 what was cleared is not read: letters", Check.shop(x, "p"), -11);
+        is("4 what was cleared is not read: blanks", Check.shop(x, "p "), -12);
+        is("4 what was cleared is not read: numbers", Check.shop(x, "p 9"), -13);
+        is("4 a text behind cleared ones", Check.shop(x, "p 9;"), 1);
     }
 
     private static void promise4NothingChanges() {
